@@ -15,7 +15,7 @@ public final class HandTables {
     private static final int SEATS = 6;
     private static final int FULL_BOARD = 5;
 
-    /** The board lies in the row of the seats, behind them, where cards() asks for it. */
+    /** The board lies behind the seats, as it has their next number in cards(). */
     private static final int BOARD = 6;
 
     private static final int CATEGORIES = 9;
@@ -33,7 +33,7 @@ public final class HandTables {
 
     private static final int[] FIRST = {0, 1277, 4137, 4995, 5853, 5863, 7140, 7296, 7452, 7462};
 
-    /** By category: the suits of all ranks of a row are free, but for what would be a flush. */
+    /** By category, as the suits that a row can have do not depend on its ranks. */
     private static final int[] SETS = {1020, 384, 144, 64, 1020, 4, 24, 4, 4};
 
     /** How many sets of one, two or three ranks there are beside one rank that is taken. */
@@ -434,7 +434,7 @@ public final class HandTables {
         return 0;
     }
 
-    /** Has a straight's lowest card at the bit of its place among the straights. */
+    /** The straights that some ranks hold, each as the rank of its place among all ten. */
     private static long straights(long ranks) {
         // The ace stands below the two as well, where all others have moved up for it.
         long row = (ranks << 4) | (ranks >>> 48);

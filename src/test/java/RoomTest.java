@@ -20,7 +20,7 @@ public final class RoomTest {
             useAll(table);
         }
         long made = bytes() - before;
-        CHECK.due("510 calls made " + made + " bytes: that is few", made <= FEW_BYTES, true);
+        CHECK.due("510 calls made " + made + " bytes, which is few:", made <= FEW_BYTES, true);
         CHECK.finish();
     }
 
