@@ -1,68 +1,48 @@
 /** Promises 14 to 18: ahead, boards, wins, outs, share. */
 public final class OddsTest {
     private static final Check CHECK = new Check("OddsTest");
-    private static final Class<IndexOutOfBoundsException> NO_SEAT = IndexOutOfBoundsException.class;
-    private static final Class<IllegalArgumentException> WRONG = IllegalArgumentException.class;
     private static final Class<IllegalStateException> TOO_EARLY = IllegalStateException.class;
-    private static final int[] NO_SEATS = {-1, 6, 7, Integer.MIN_VALUE, Integer.MAX_VALUE};
 
     public static void main(String[] args) {
         aheadNow();
         boardsToCome();
         winsOfALoneSeat();
         winsAndShares();
-        winsThrows();
         outsOfTwo();
-        outsThrows();
         sharesOfAPot();
-        shareThrows();
         CHECK.finish();
     }
 
-    private static HandTables table(String board, String... seats) {
-        HandTables table = new HandTables();
-        for (int seat = 0; seat < seats.length; seat++) {
-            if (!seats[seat].isEmpty()) {
-                String[] two = seats[seat].split(" ");
-                table.seat(seat, Cards.card(two[0]), Cards.card(two[1]));
-            }
-        }
-        for (String card : board.split(" ")) {
-            if (!card.isEmpty()) {
-                table.board(Cards.card(card));
-            }
-        }
-        return table;
-    }
-
     private static void aheadNow() {
-        CHECK.due("ahead: one", table("2c 7d 9h", "Ac Kd", "9c 3d").ahead(), 2);
-        CHECK.due("ahead: the last seat", table("2c 7d 9h", "", "", "", "", "", "3s 4d").ahead(), 32);
-        CHECK.due("ahead: two", table("2c 7d 9h", "Ac Kd", "", "4h 5h", "As Kh").ahead(), 9);
-        CHECK.due("ahead: all on a full board", table("Ts Js Qs Ks As", "2c 2d", "2h 2s", "3c 3d",
-            "4c 4d", "5c 5d", "6c 6d").ahead(), 63);
-        CHECK.due("ahead: with four cards", table("2c 7d 9h Ah", "Ac Kd", "9c 3d").ahead(), 1);
-        CHECK.thrown("ahead: a small board", TOO_EARLY, () -> table("2c 7d", "Ac Kd").ahead());
-        CHECK.thrown("ahead: no board", TOO_EARLY, () -> table("", "Ac Kd").ahead());
-        CHECK.thrown("ahead: no seats", TOO_EARLY, () -> table("2c 7d 9h").ahead());
-        CHECK.thrown("ahead: nothing", TOO_EARLY, () -> table("").ahead());
+        CHECK.due("ahead: one", Tables.of("2c 7d 9h", "Ac Kd", "9c 3d").ahead(), 2);
+        CHECK.due("ahead: the last seat",
+            Tables.of("2c 7d 9h", "", "", "", "", "", "3s 4d").ahead(), 32);
+        CHECK.due("ahead: two", Tables.of("2c 7d 9h", "Ac Kd", "", "4h 5h", "As Kh").ahead(), 9);
+        CHECK.due("ahead: all on a full board", Tables.of("Ts Js Qs Ks As", "2c 2d", "2h 2s",
+            "3c 3d", "4c 4d", "5c 5d", "6c 6d").ahead(), 63);
+        CHECK.due("ahead: with four cards", Tables.of("2c 7d 9h Ah", "Ac Kd", "9c 3d").ahead(), 1);
+        CHECK.thrown("ahead: a small board", TOO_EARLY, () -> Tables.of("2c 7d", "Ac Kd").ahead());
+        CHECK.thrown("ahead: no board", TOO_EARLY, () -> Tables.of("", "Ac Kd").ahead());
+        CHECK.thrown("ahead: no seats", TOO_EARLY, () -> Tables.of("2c 7d 9h").ahead());
+        CHECK.thrown("ahead: nothing", TOO_EARLY, () -> Tables.of("").ahead());
     }
 
     private static void boardsToCome() {
-        CHECK.due("boards: no seats", table("2c 7d 9h").boards(), 49 * 48 / 2);
-        CHECK.due("boards: one seat", table("2c 7d 9h", "Ac Kd").boards(), 47 * 46 / 2);
-        CHECK.due("boards: all seats", table("2c 7d 9h", "Ts Js", "Qs Ks", "3c 3d", "4c 4d",
+        CHECK.due("boards: no seats", Tables.of("2c 7d 9h").boards(), 49 * 48 / 2);
+        CHECK.due("boards: one seat", Tables.of("2c 7d 9h", "Ac Kd").boards(), 47 * 46 / 2);
+        CHECK.due("boards: all seats", Tables.of("2c 7d 9h", "Ts Js", "Qs Ks", "3c 3d", "4c 4d",
             "5c 5d", "6c 6d").boards(), 37 * 36 / 2);
-        CHECK.due("boards: no seats, four", table("2c 7d 9h Th").boards(), 48);
-        CHECK.due("boards: two seats, four", table("2c 7d 9h Th", "Ac Kd", "3c 3d").boards(), 44);
-        CHECK.due("boards: five", table("2c 7d 9h Th As", "Ac Kd").boards(), 1);
-        CHECK.due("boards: no seats, five", table("2c 7d 9h Th As").boards(), 1);
-        CHECK.thrown("boards: two cards", TOO_EARLY, () -> table("2c 7d", "Ac Kd").boards());
-        CHECK.thrown("boards: none", TOO_EARLY, () -> table("").boards());
+        CHECK.due("boards: no seats, four", Tables.of("2c 7d 9h Th").boards(), 48);
+        CHECK.due("boards: two seats, four",
+            Tables.of("2c 7d 9h Th", "Ac Kd", "3c 3d").boards(), 44);
+        CHECK.due("boards: five", Tables.of("2c 7d 9h Th As", "Ac Kd").boards(), 1);
+        CHECK.due("boards: no seats, five", Tables.of("2c 7d 9h Th As").boards(), 1);
+        CHECK.thrown("boards: two cards", TOO_EARLY, () -> Tables.of("2c 7d", "Ac Kd").boards());
+        CHECK.thrown("boards: none", TOO_EARLY, () -> Tables.of("").boards());
     }
 
     private static void winsOfALoneSeat() {
-        HandTables table = table("2c 7d 9h", "", "", "", "", "", "Ac Kd");
+        HandTables table = Tables.of("2c 7d 9h", "", "", "", "", "", "Ac Kd");
         CHECK.due("alone: wins(5, 0)", table.wins(5, 0), 1081);
         CHECK.due("alone: wins(5, 1)", table.wins(5, 1), 0);
         table.board(50);
@@ -79,70 +59,44 @@ public final class OddsTest {
     }
 
     private static void winsAndShares() {
-        HandTables table = table("Ah Kd 7c 2s", "Ac Qd", "Kh Ks");
+        HandTables table = Tables.of("Ah Kd 7c 2s", "Ac Qd", "Kh Ks");
         wins("one more ace is not enough", table, 0, 0, 0);
         wins("one more ace is not enough", table, 1, 44, 0);
 
-        table = table("Ts Js Qs Ks As", "2c 2d", "", "2h 2s");
+        table = Tables.of("Ts Js Qs Ks As", "2c 2d", "", "2h 2s");
         wins("the board itself", table, 0, 0, 1);
         wins("the board itself", table, 2, 0, 1);
 
-        table = table("Ts Js Qs 2c 3c", "Ac Kd", "Ad Kh", "4c 4d");
+        table = Tables.of("Ts Js Qs 2c 3c", "Ac Kd", "Ad Kh", "4c 4d");
         wins("two of three", table, 0, 0, 1);
         wins("two of three", table, 1, 0, 1);
         wins("two of three", table, 2, 0, 0);
 
         // The ranks are the same, but one of nine more hearts makes a flush for the first.
-        table = table("2h 7d 9h", "Ah Kh", "Ac Kd");
+        table = Tables.of("2h 7d 9h", "Ah Kh", "Ac Kd");
         wins("a flush or the same", table, 0, 990 - 36 * 35 / 2, 36 * 35 / 2);
         wins("a flush or the same", table, 1, 0, 36 * 35 / 2);
 
-        table = table("9c 9d 2h 3s", "9h Kd", "As 4d");
+        table = Tables.of("9c 9d 2h 3s", "9h Kd", "As 4d");
         wins("four more fives make a straight", table, 0, 40, 0);
         wins("four more fives make a straight", table, 1, 4, 0);
     }
 
-    private static void winsThrows() {
-        HandTables table = table("2c 7d 9h", "Ac Kd");
-        for (int seat : NO_SEATS) {
-            CHECK.thrown("wins(" + seat + ", 0)", NO_SEAT, () -> table.wins(seat, 0));
-            CHECK.thrown("wins(" + seat + ", 2)", NO_SEAT, () -> table("").wins(seat, 2));
-        }
-        for (int what : new int[] {-1, 2, Integer.MIN_VALUE, Integer.MAX_VALUE}) {
-            CHECK.thrown("wins(0, " + what + ")", WRONG, () -> table.wins(0, what));
-            CHECK.thrown("wins(1, " + what + ")", WRONG, () -> table("").wins(1, what));
-        }
-        CHECK.thrown("wins(1, 0) of none", TOO_EARLY, () -> table.wins(1, 0));
-        CHECK.thrown("wins(0, 1) of two", TOO_EARLY, () -> table("2c 7d", "Ac Kd").wins(0, 1));
-    }
-
     private static void outsOfTwo() {
-        HandTables table = table("9c 9d 2h 3s", "9h Kd", "As 4d");
+        HandTables table = Tables.of("9c 9d 2h 3s", "9h Kd", "As 4d");
         CHECK.due("outs: a straight", table.outs(1), Cards.set("5c 5d 5h 5s"));
         CHECK.due("outs: all others", Long.bitCount(table.outs(0)), 40);
         CHECK.due("outs: none of both", table.outs(0) & table.outs(1), 0);
 
-        table = table("2c 7d 9h", "Ac Kd", "3s 3d");
+        table = Tables.of("2c 7d 9h", "Ac Kd", "3s 3d");
         CHECK.due("outs: with three", table.outs(0), Cards.set("Ad Ah As Kc Kh Ks"));
 
-        table = table("2c 7d 9h", "Ac Kd", "As Kh");
+        table = Tables.of("2c 7d 9h", "Ac Kd", "As Kh");
         CHECK.due("outs: none alone", table.outs(0), 0);
 
-        long lone = table("2c 7d 9h", "", "", "", "Ac Kd").outs(3);
+        long lone = Tables.of("2c 7d 9h", "", "", "", "Ac Kd").outs(3);
         CHECK.due("outs: all that are free", lone,
             ((1L << 52) - 1) & ~Cards.set("2c 7d 9h Ac Kd"));
-    }
-
-    private static void outsThrows() {
-        HandTables table = table("2c 7d 9h", "Ac Kd");
-        for (int seat : NO_SEATS) {
-            CHECK.thrown("outs(" + seat + ")", NO_SEAT, () -> table.outs(seat));
-            CHECK.thrown("outs(" + seat + ") of none", NO_SEAT, () -> table("").outs(seat));
-        }
-        CHECK.thrown("outs(1) of none", TOO_EARLY, () -> table.outs(1));
-        CHECK.thrown("outs(0) of two", TOO_EARLY, () -> table("2c 7d", "Ac Kd").outs(0));
-        CHECK.thrown("outs(0) of five", TOO_EARLY,
-            () -> table("2c 7d 9h Th Jh", "Ac Kd").outs(0));
     }
 
     private static void share(HandTables table, int pot, int... due) {
@@ -154,7 +108,7 @@ public final class OddsTest {
     }
 
     private static void sharesOfAPot() {
-        HandTables all = table("Ts Js Qs Ks As", "2c 2d", "", "2h 2s", "3c 3d", "", "4c 4d");
+        HandTables all = Tables.of("Ts Js Qs Ks As", "2c 2d", "", "2h 2s", "3c 3d", "", "4c 4d");
         share(all, 0, 0, -1, 0, 0, -1, 0);
         share(all, 1, 1, -1, 0, 0, -1, 0);
         share(all, 6, 2, -1, 2, 1, -1, 1);
@@ -162,26 +116,11 @@ public final class OddsTest {
         share(all, 8, 2, -1, 2, 2, -1, 2);
         share(all, Integer.MAX_VALUE, 536870912, -1, 536870912, 536870912, -1, 536870911);
 
-        HandTables two = table("Ts Js Qs 2c 3c", "4c 4d", "Ac Kd", "5c 5d", "", "", "Ad Kh");
+        HandTables two = Tables.of("Ts Js Qs 2c 3c", "4c 4d", "Ac Kd", "5c 5d", "", "", "Ad Kh");
         share(two, 101, 0, 51, 0, -1, -1, 50);
         share(two, 100, 0, 50, 0, -1, -1, 50);
 
-        HandTables one = table("Ts Js Qs 2c 3c", "4c 4d", "Ac Kd");
+        HandTables one = Tables.of("Ts Js Qs 2c 3c", "4c 4d", "Ac Kd");
         share(one, Integer.MAX_VALUE, 0, Integer.MAX_VALUE);
-    }
-
-    private static void shareThrows() {
-        HandTables table = table("2c 7d 9h Th Jh", "Ac Kd");
-        for (int seat : NO_SEATS) {
-            CHECK.thrown("share(" + seat + ", 1)", NO_SEAT, () -> table.share(seat, 1));
-            CHECK.thrown("share(" + seat + ", -1)", NO_SEAT, () -> table("").share(seat, -1));
-        }
-        for (int pot : new int[] {-1, Integer.MIN_VALUE}) {
-            CHECK.thrown("share(0, " + pot + ")", WRONG, () -> table.share(0, pot));
-            CHECK.thrown("share(1, " + pot + ")", WRONG, () -> table("").share(1, pot));
-        }
-        CHECK.thrown("share(1, 1) of none", TOO_EARLY, () -> table.share(1, 1));
-        CHECK.thrown("share(0, 1) of four", TOO_EARLY,
-            () -> table("2c 7d 9h Th", "Ac Kd").share(0, 1));
     }
 }

@@ -1,6 +1,6 @@
 import java.lang.management.ManagementFactory;
 
-/** All calls of a run share one room: so the dearest calls, made 512 times, must take none of it. */
+/** All calls of a run share one room: so the dearest calls must take none of it. */
 public final class RoomTest {
     private static final Check CHECK = new Check("RoomTest");
     /** Far below what an object a call would take. */
@@ -16,11 +16,11 @@ public final class RoomTest {
         table.board(30);
         useAll(table);
         long before = bytes();
-        for (int call = 0; call < 85; call++) {
+        for (int round = 0; round < 54; round++) {
             useAll(table);
         }
         long made = bytes() - before;
-        CHECK.due("510 calls made " + made + " bytes, which is few:", made <= FEW_BYTES, true);
+        CHECK.due("486 calls made " + made + " bytes, which is few:", made <= FEW_BYTES, true);
         CHECK.finish();
     }
 

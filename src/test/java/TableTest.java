@@ -1,14 +1,11 @@
 /** Promises 1 and 8 to 13: a new table, seat, leave, board, clear, cards, hand. */
 public final class TableTest {
     private static final Check CHECK = new Check("TableTest");
-    private static final int[] NO_SEATS = {-1, 6, 7, Integer.MIN_VALUE, Integer.MAX_VALUE};
-    private static final int[] NO_CARDS = {-1, 52, 64, Integer.MIN_VALUE, Integer.MAX_VALUE};
 
     public static void main(String[] args) {
         newTable();
         seatTakesTwoCards();
         seatRefusesWhatCannotBe();
-        seatThrows();
         leaveEmptiesASeat();
         boardTakesFive();
         boardRefusesWhatStands();
@@ -58,26 +55,6 @@ public final class TableTest {
         CHECK.due("cards(6) is as it was", table.cards(6), 1L << 30);
     }
 
-    private static void seatThrows() {
-        HandTables table = new HandTables();
-        table.seat(2, 10, 20);
-        for (int seat : NO_SEATS) {
-            CHECK.thrown("seat(" + seat + ", 1, 2)", IndexOutOfBoundsException.class,
-                () -> table.seat(seat, 1, 2) ? 1 : 0);
-            CHECK.thrown("seat(" + seat + ", 52, -1)", IndexOutOfBoundsException.class,
-                () -> table.seat(seat, 52, -1) ? 1 : 0);
-        }
-        for (int card : NO_CARDS) {
-            CHECK.thrown("seat(2, " + card + ", 2)", IllegalArgumentException.class,
-                () -> table.seat(2, card, 2) ? 1 : 0);
-            CHECK.thrown("seat(2, 2, " + card + ")", IllegalArgumentException.class,
-                () -> table.seat(2, 2, card) ? 1 : 0);
-            CHECK.thrown("seat(2, " + card + ", " + card + ")", IllegalArgumentException.class,
-                () -> table.seat(2, card, card) ? 1 : 0);
-        }
-        CHECK.due("cards(2) is as it was", table.cards(2), 1L << 10 | 1L << 20);
-    }
-
     private static void leaveEmptiesASeat() {
         HandTables table = new HandTables();
         table.seat(5, 3, 4);
@@ -88,11 +65,7 @@ public final class TableTest {
         CHECK.due("cards(4)", table.cards(4), 1L << 5 | 1L << 6);
         CHECK.due("leave(5) again", table.leave(5), false);
         CHECK.due("a card of a seat that was left", table.board(3), 1);
-        for (int seat : NO_SEATS) {
-            CHECK.thrown("leave(" + seat + ")", IndexOutOfBoundsException.class,
-                () -> table.leave(seat) ? 1 : 0);
-        }
-        CHECK.due("leave(6) leaves the board", table.cards(6), 1L << 3);
+        CHECK.due("cards(6)", table.cards(6), 1L << 3);
     }
 
     private static void boardTakesFive() {
@@ -115,10 +88,6 @@ public final class TableTest {
         CHECK.due("one card of a seat", table.board(0), HandTables.NONE);
         CHECK.due("the other card of a seat", table.board(51), HandTables.NONE);
         CHECK.due("a card of the board", table.board(25), HandTables.NONE);
-        for (int card : NO_CARDS) {
-            CHECK.thrown("board(" + card + ")", IllegalArgumentException.class,
-                () -> table.board(card));
-        }
         CHECK.due("cards(6) is as it was", table.cards(6), 1L << 25);
         CHECK.due("another card", table.board(26), 2);
     }
@@ -148,12 +117,6 @@ public final class TableTest {
             CHECK.due("cards(" + seat + ")", table.cards(seat), 1L << seat | 1L << 51 - seat);
         }
         CHECK.due("cards(6)", table.cards(6), 1L << 33);
-        for (int seat : NO_SEATS) {
-            if (seat != 6) {
-                CHECK.thrown("cards(" + seat + ")", IndexOutOfBoundsException.class,
-                    () -> table.cards(seat));
-            }
-        }
     }
 
     private static void handOfASeat() {
@@ -171,11 +134,5 @@ public final class TableTest {
             }
         }
         CHECK.thrown("hand(0) of none", IllegalStateException.class, () -> table.hand(0));
-        for (int seat : NO_SEATS) {
-            CHECK.thrown("hand(" + seat + ")", IndexOutOfBoundsException.class,
-                () -> table.hand(seat));
-            CHECK.thrown("hand(" + seat + ") of a new table", IndexOutOfBoundsException.class,
-                () -> new HandTables().hand(seat));
-        }
     }
 }
