@@ -67,6 +67,7 @@ public final class HandTables {
 
     private static final int SEED_FACTOR = 1103515245;
     private static final int SEED_STEP = 12345;
+    private static final int ALL_BUT_SIGN = 0x7FFFFFFF;
 
     private final long[] table;
     private final int[] deck;
@@ -243,7 +244,7 @@ public final class HandTables {
         int next = seed;
         for (int i = CARDS - 1; i >= 1; i--) {
             next = next * SEED_FACTOR + SEED_STEP;
-            int j = ((next & Integer.MAX_VALUE) >> 8) % (i + 1);
+            int j = ((next & ALL_BUT_SIGN) >> 8) % (i + 1);
             int card = deck[i];
             deck[i] = deck[j];
             deck[j] = card;
